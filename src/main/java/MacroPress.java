@@ -305,42 +305,38 @@ public final class MacroPress {
 
     /** All names that a run has met, each with a number; the primitives' come first and stay. */
     private static final class Names {
-        private static final int BUCKETS = 512;
+        private static final int BUCKETS = 256;
 
         final char[] letters = new char[MAX_NAMES * MAX_NAME + PRIMITIVES.length()];
+        /** Where each name's letters begin; the next name's beginning is their end. */
         final int[] start = new int[PRIMITIVE_COUNT + MAX_NAMES + 1];
         private final int[] first = new int[BUCKETS];
+        private final int[] firstAtBegin;
         private final int[] next = new int[PRIMITIVE_COUNT + MAX_NAMES];
-        int known;
+        private int known;
 
-        /** The primitives' letters are laid once; begin links them anew for each run. */
         Names() {
-            int end = 0;
-            for (int i = 0; i < PRIMITIVES.length(); i++) {
-                char c = PRIMITIVES.charAt(i);
-                if (c == ' ') {
-                    known++;
-                    start[known] = end;
-                } else {
-                    letters[end] = c;
-                    end++;
-                }
-            }
-        }
-
-        void begin() {
             for (int i = 0; i < BUCKETS; i++) {
                 first[i] = -1;
             }
-            for (known = 0; known < PRIMITIVE_COUNT; known++) {
-                int hash = lengthOf(known);
-                for (int i = start[known]; i < start[known + 1]; i++) {
-                    hash = 31 * hash + letters[i];
+            int[] row = new int[MAX_NAME];
+            int length = 0;
+            for (int i = 0; i < PRIMITIVES.length(); i++) {
+                char c = PRIMITIVES.charAt(i);
+                if (c == ' ') {
+                    find(row, 0, length);
+                    length = 0;
+                } else if (length < MAX_NAME) {
+                    row[length] = c;
+                    length++;
                 }
-                int bucket = hash & (BUCKETS - 1);
-                next[known] = first[bucket];
-                first[bucket] = known;
             }
+            firstAtBegin = first.clone();
+        }
+
+        void begin() {
+            System.arraycopy(firstAtBegin, 0, first, 0, BUCKETS);
+            known = PRIMITIVE_COUNT;
         }
 
         int lengthOf(int id) {
@@ -391,6 +387,7 @@ public final class MacroPress {
         private static final int MAX_SAVED = MAX_TICKS + 1;
 
         final int[] value = new int[SLOTS];
+        private final int[] valueAtBegin = new int[SLOTS];
         private final int[] level = new int[SLOTS];
         private final int[] savedSlot = new int[MAX_SAVED];
         private final int[] savedValue = new int[MAX_SAVED];
@@ -402,21 +399,17 @@ public final class MacroPress {
 
         Store(Progress progress) {
             this.progress = progress;
-        }
-
-        void begin() {
-            saved = 0;
-            groups = 0;
-            for (int slot = 0; slot < SLOTS; slot++) {
-                value[slot] = 0;
-                level[slot] = 0;
-            }
             for (int c = 0; c < 256; c++) {
-                value[CATEGORIES + c] = firstCategory(c);
+                valueAtBegin[CATEGORIES + c] = firstCategory(c);
             }
             for (int id = 0; id < PRIMITIVE_COUNT; id++) {
-                value[NAMES + id] = meaningOf(MEANS_PRIMITIVE, id + 1);
+                valueAtBegin[NAMES + id] = meaningOf(MEANS_PRIMITIVE, id + 1);
             }
+        }
+
+        /** Levels and groups need no care here: the end of the run before has closed all groups. */
+        void begin() {
+            System.arraycopy(valueAtBegin, 0, value, 0, SLOTS);
         }
 
         private static int firstCategory(int c) {
@@ -738,8 +731,9 @@ public final class MacroPress {
         private static final int ROOM = MAX_PENDING + 100 + MAX_TEXT + 1;
 
         private final int[] tokens = new int[ROOM];
-        private final int[] from = new int[10];
-        private final int[] to = new int[10];
+        /** A place's lowest four bits are its parameter: 1 .. 9 of 0 .. 15. */
+        private final int[] from = new int[16];
+        private final int[] to = new int[16];
         private int filled;
         private final Source source;
         private final Macros macros;
