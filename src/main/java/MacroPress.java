@@ -352,20 +352,18 @@ public final class MacroPress {
             int bucket = hash & (BUCKETS - 1);
             int id = first[bucket];
             for (int i = 0; i < known && id >= 0; i++) {
-                int begin = start[id];
-                int same = start[id + 1] - begin == length ? 0 : -1;
+                int same = start[id + 1] - start[id] == length ? 0 : -1;
                 while (same >= 0 && same < length) {
-                    same = letters[begin + same] == row[from + same] ? same + 1 : -1;
+                    same = letters[start[id] + same] == row[from + same] ? same + 1 : -1;
                 }
                 if (same == length) {
                     return id;
                 }
                 id = next[id];
             }
-            return known < PRIMITIVE_COUNT + MAX_NAMES ? add(row, from, length, bucket) : -1;
-        }
-
-        private int add(int[] row, int from, int length, int bucket) {
+            if (known >= PRIMITIVE_COUNT + MAX_NAMES) {
+                return -1;
+            }
             int begin = start[known];
             for (int i = 0; i < length; i++) {
                 letters[begin + i] = (char) row[from + i];
