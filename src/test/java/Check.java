@@ -1,7 +1,8 @@
-import java.nio.charset.StandardCharsets;
-
-/** What the tests share: typing a text, and comparing what a run answers with what is due. */
+/** What the tests share: comparing what a run answers with what is due. */
 final class Check {
+    /** Calls that are left to a test behind the comparing of OUT. */
+    private static final int CALLS_KEPT = 5;
+
     private static int wrong = 0;
 
     private Check() {
@@ -10,36 +11,33 @@ final class Check {
     static void due(String what, long got, long want) {
         if (got != want) {
             wrong++;
-            System.out.println(what + ": answered " + got + ", due is " + want);
+            System.out.println(brief(what) + ": answered " + got + ", due is " + want);
         }
     }
 
-    static void due(String what, String got, String want) {
-        if (!got.equals(want)) {
-            wrong++;
-            System.out.println(what + ": answered [" + got + "], due is [" + want + "]");
-        }
+    private static String brief(String what) {
+        int length = what.length();
+        return length <= 200 ? what : what.substring(0, 100) + " .. " + what.substring(length - 90);
     }
 
-    /** Types a text, a byte for each of its characters. */
-    static void type(MacroPress press, String text) {
-        byte[] bytes = text.getBytes(StandardCharsets.ISO_8859_1);
-        for (int i = 0; i < bytes.length; i += 8) {
-            int n = Math.min(8, bytes.length - i);
-            long w = 0;
-            for (int j = 0; j < n; j++) {
-                w |= (bytes[i + j] & 255L) << (8 * j);
-            }
-            due("typing", press.type(w, n) ? 1 : 0, 1);
-        }
+    static void holds(String what, boolean isSo) {
+        due(what, isSo ? 1 : 0, 1);
     }
 
-    static String out(MacroPress press) {
-        StringBuilder text = new StringBuilder();
-        for (int i = 0; i < press.size(); i++) {
-            text.append((char) press.out(i));
+    static void type(Press press, String text) {
+        holds("typing " + text, press.type(text));
+    }
+
+    /** Compares OUT; of one that is too long for an object's calls some bytes, the first and the last among them. */
+    static void out(String what, Press press, String want) {
+        int size = press.size();
+        due(what + " size", size, want.length());
+        int bytes = Math.min(size, want.length());
+        int looks = Math.min(bytes, Math.max(press.callsLeft() - CALLS_KEPT, 0));
+        for (int i = 0; i < looks; i++) {
+            int at = looks == 1 ? 0 : (int) ((long) i * (bytes - 1) / (looks - 1));
+            due(what + " byte " + at, press.out(at), want.charAt(at));
         }
-        return text.toString();
     }
 
     /** A text that runs without a fault; its last line's end counts, as it does in every text. */
@@ -53,24 +51,45 @@ final class Check {
     }
 
     /** A text whose run answers that, with what came out before. */
-    static MacroPress fails(String text, int answer, String out) {
+    static Press fails(String text, int answer, String out) {
         return failsWithin(30000, text, answer, out);
     }
 
-    static MacroPress failsWithin(int ticks, String text, int answer, String out) {
-        MacroPress press = new MacroPress();
+    static Press failsWithin(int ticks, String text, int answer, String out) {
+        Press press = new Press();
         type(press, text);
         due(text, press.run(ticks), answer);
-        due(text, out(press), out);
+        out(text, press, out);
         return press;
     }
 
     /** A text whose run answers that, with so many ticks. */
-    static void failsIn(int ticks, String text, int answer) {
-        MacroPress press = new MacroPress();
+    static Press failsIn(int ticks, String text, int answer) {
+        Press press = new Press();
         type(press, text);
         due(text, press.run(30000), answer);
         due(text + " ticks", press.ticks(), ticks);
+        return press;
+    }
+
+    /** A text without a fault that needs so many ticks: they are enough, and one less is not. */
+    static void needs(int ticks, String text) {
+        Press press = new Press();
+        type(press, text);
+        due(text + " with enough ticks", press.run(ticks), 0);
+        due(text + " ticks", press.ticks(), ticks);
+        press = new Press();
+        type(press, text);
+        due(text + " with a tick too few", press.run(ticks - 1) / 10000, 10);
+        due(text + " ticks with the one too many", press.ticks(), ticks);
+    }
+
+    /** A text without a fault behind which counter k has that value. */
+    static void counts(String text, int k, long value) {
+        Press press = new Press();
+        type(press, text);
+        due(text, press.run(30000), 0);
+        due(text + " counter " + k, press.count(k), value);
     }
 
     static String times(int n, String text) {

@@ -9,6 +9,8 @@ public final class ConditionTest {
         within();
         openedWhileDeciding();
         metWhileDeciding();
+        everyConditionWithin();
+        droppedByMeaning();
         faults();
         Check.end();
     }
@@ -21,6 +23,13 @@ public final class ConditionTest {
     private static void ifCharacter() {
         holds("\\if aa\\relax", true);
         holds("\\if ab\\relax", false);
+        holds("\\if bc\\relax", false);
+        holds("\\if aA\\relax", false);
+        holds("\\if\\relax\u00ff\\relax", false);
+        holds("\\if\u00ff\\q\\relax", false);
+        holds("\\if\u00ff\u00ff\\relax", true);
+        holds("\\catcode0=12 \\if\0\\q\\relax", false);
+        holds("\\catcode0=12 \\if\0\0\\relax", true);
         holds("\\if a\\string a\\relax", true);
         holds("\\if\\relax\\par\\relax", true);
         holds("\\if\\q~\\relax", true);
@@ -41,6 +50,13 @@ public final class ConditionTest {
         holds("\\ifcat$&\\relax", false);
         holds("\\ifcat\\relax~\\relax", true);
         holds("\\let\\x=a\\ifcat b\\x\\relax", true);
+        holds("\\ifcat 1\u00e9\\relax", true);
+        String[] categories = {"{", "}", "$", "&", "#", "^", "_", "\\s", "\\l", "1", "\\relax"};
+        for (String first : categories) {
+            for (String second : categories) {
+                holds("\\def\\x#1{\\let\\s=#1#1}\\x{ }\\let\\l=a\\ifcat" + first + second + "\\relax", first.equals(second));
+            }
+        }
         holds("\\let\\x=@\\catcode`@=11 \\ifcat @\\x\\relax", false);
         holds("\\chardef\\x=97 \\ifcat\\q\\x\\relax", true);
     }
@@ -62,6 +78,15 @@ public final class ConditionTest {
         holds("\\chardef\\x=97 \\ifx\\x a", false);
         holds("\\def\\x{a}\\def\\y{a}\\ifx\\x\\y", true);
         holds("\\def\\x{a}\\ifx\\x a", false);
+        holds("\\def\\x{}\\ifx\\x\\q", false);
+        holds("\\def\\x{}\\ifx\\q\\x", false);
+        holds("\\def\\x{}\\ifx\\x\\relax", false);
+        holds("\\def\\x{}\\def\\y{}\\ifx\\x\\y", true);
+        holds("\\def\\z{uvw}\\def\\x{ab}\\def\\y{ab}\\ifx\\x\\y", true);
+        holds("\\def\\z{uvw}\\def\\x{ab}\\def\\y{ab}\\ifx\\y\\x", true);
+        holds("\\def\\z{uvw}\\def\\x{ab}\\def\\y{ac}\\ifx\\x\\y", false);
+        holds("\\def\\z{uvw}\\def\\x{ab}\\def\\y{cb}\\ifx\\x\\y", false);
+        holds("\\def\\z{uvw}\\def\\x#1{ab}\\def\\y{1ab}\\ifx\\x\\y", false);
         holds("\\def\\x{a}\\expandafter\\ifx\\noexpand\\x\\x", false);
     }
 
@@ -145,7 +170,58 @@ public final class ConditionTest {
         Check.failsIn(2, "\\ifnum\\fi", 60001);
         Check.failsIn(4, "\\ifnum1=1\\or\\fi", 80001);
         Check.prints("\\if\\string\\else\\fi%", "");
+        Check.prints("\\edef\\a{\\ifnum1=1\\fi}\\def\\b{\\relax}\\ifx\\a\\b s\\fi%", "s");
+        Check.prints("\\edef\\a{\\ifnum1=1\\else x\\fi}\\def\\b{\\relax}\\ifx\\a\\b s\\fi%", "s");
+        Check.prints("\\edef\\a{\\ifcase0\\or x\\fi}\\def\\b{\\relax}\\ifx\\a\\b s\\fi%", "s");
+        Check.prints("\\def\\relax{x}\\ifnum1=1\\fi;%", ";");
         Check.prints("\\ifodd1\\iftrue\\fi a\\fi b%", "ab");
+    }
+
+    private static final String[] CONDITIONS = {"\\if", "\\ifcat", "\\ifx", "\\ifnum", "\\ifodd", "\\iftrue", "\\iffalse", "\\ifcase"};
+
+    /** In what is dropped each condition has its own else, or and fi, and is not decided. */
+    private static void everyConditionWithin() {
+        for (String inner : CONDITIONS) {
+            Check.printsIn(3, "\\iffalse" + inner + "\\else\\fi\\else b\\fi%", "b");
+            Check.printsIn(3, "\\iffalse" + inner + "\\or\\else\\or\\else\\fi\\else b\\fi%", "b");
+            Check.printsIn(1, "\\iffalse" + inner + "\\fi\\fi%", "");
+            Check.printsIn(2, "\\iftrue\\else" + inner + "\\else\\fi\\fi%", "");
+            Check.printsIn(2, "\\iftrue\\else" + inner + "\\fi\\else\\fi%", "");
+            Check.printsIn(3, "\\ifcase1 " + inner + "\\or\\or\\else\\fi\\or b\\fi%", "b");
+            Check.printsIn(3, "\\ifcase2 " + inner + "\\or\\fi\\or" + inner + "\\or\\fi\\or b\\fi%", "b");
+            Check.printsIn(2, "\\ifcase0 \\or" + inner + "\\fi\\fi%", "");
+            Check.printsIn(3, "\\iffalse" + inner + inner + "\\fi\\else\\fi\\else b\\fi%", "b");
+            Check.fails("\\iffalse" + inner + "\\fi", 90001, "");
+        }
+        for (String outer : new String[] {"\\if ab", "\\ifcat a1", "\\ifx ab", "\\ifnum1=2 ", "\\ifodd2 ", "\\iffalse", "\\ifcase1 "}) {
+            Check.printsIn(3, outer + ";\\else b\\fi%", "b");
+            Check.printsIn(1, outer + ";\\fi%", "");
+            Check.printsIn(1, outer + "{\\iftrue a\\else b\\fi\\fi%", "");
+        }
+        for (String outer : new String[] {"\\if aa", "\\ifcat ab", "\\ifx aa", "\\ifnum1=1 ", "\\ifodd1 ", "\\iftrue", "\\ifcase0 "}) {
+            Check.printsIn(3, outer + ";\\else b\\fi%", ";");
+            Check.printsIn(3, outer + ";\\fi%", ";");
+        }
+    }
+
+    /** "conditions within, by what tokens mean": not by their names, and a marked one means relax. */
+    private static void droppedByMeaning() {
+        Check.prints("\\let\\i=\\ifnum\\let\\e=\\else\\let\\o=\\or\\let~=\\fi\\iffalse\\i\\e\\o~\\e b~%", "b");
+        Check.prints("\\let\\if=\\relax\\iffalse\\if\\else b\\fi%", "b");
+        Check.prints("\\def\\fi{}\\expandafter\\let\\csname\\endcsname\\relax;%", ";");
+        Check.prints("\\let\\f=\\fi\\let\\fi=\\relax\\iffalse\\fi a\\f b%", "b");
+        Check.prints("\\def\\i{\\iffalse}\\i\\i\\fi b%", "b");
+        Check.prints("\\def\\a#1#2{#1\\else b#2}\\expandafter\\a\\expandafter{\\expandafter\\iffalse\\noexpand\\iftrue}\\fi%", "b");
+        Check.prints("\\def\\a#1{\\iffalse#1\\else b\\fi}\\expandafter\\a\\noexpand\\fi%", "b");
+        String[] others = {"expandafter", "noexpand", "csname", "string", "number", "romannumeral", "the", "relax", "par", "begingroup",
+            "endgroup", "endcsname", "end", "def", "edef", "gdef", "xdef", "let", "chardef", "count", "catcode", "advance", "multiply",
+            "divide", "global"};
+        for (String other : others) {
+            Check.printsIn(3, "\\iffalse\\" + other + "\\else b\\fi%", "b");
+            Check.printsIn(3, "\\iftrue b\\else\\" + other + "\\fi%", "b");
+            Check.printsIn(3, "\\ifcase1 \\" + other + "\\or b\\fi%", "b");
+        }
+        Check.prints("\\chardef\\x=16 \\let\\y=\\x\\iffalse\\x\\y\\q~#}\\else b\\fi%", "b");
     }
 
     private static void faults() {

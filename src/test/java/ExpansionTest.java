@@ -75,6 +75,8 @@ public final class ExpansionTest {
         Check.prints("\\number-007 ;\\number-0 ;\\number`a ;\\number--2147483647 %", "-7;0;97;2147483647");
         Check.prints("\\ifcat\\number1 2s\\fi\\ifcat\\number-1 2t\\fi%", "s2t");
         Check.prints("\\count1=-2147483647 \\number\\count1 %", "-2147483647");
+        Check.prints("\\edef\\x{\\number-1234567890 }\\def\\y{-1234567890}\\ifx\\x\\y s\\fi%", "s");
+        Check.prints("\\count2=-1 \\catcode`-=11 \\catcode`1=11\\relax\\edef\\x{\\the\\count2 }\\def\\y{-1}\\ifx\\x\\y s\\else d\\fi%", "d");
     }
 
     private static void romannumeral() {
@@ -95,6 +97,11 @@ public final class ExpansionTest {
         roman("9999", "mmmmmmmmmcmxcix");
         Check.failsIn(1, "\\romannumeral10000 ", 70001);
         Check.prints("\\ifcat\\romannumeral1 2s\\fi%", "s");
+        Check.prints("\\edef\\x{\\romannumeral2669 }\\edef\\y{\\string m\\string m\\string d\\string c\\string l\\string x"
+                + "\\string i\\string x}\\ifx\\x\\y s\\fi%", "s");
+        Check.prints("\\edef\\x{\\romannumeral448 }\\edef\\y{\\string c\\string d\\string x\\string l\\string v\\string i"
+                + "\\string i\\string i}\\ifx\\x\\y s\\fi%", "s");
+        Check.prints("\\edef\\x{\\romannumeral1994 }\\def\\y{mcmxciv}\\ifx\\x\\y s\\else d\\fi%", "d");
     }
 
     private static void roman(String number, String letters) {
@@ -124,7 +131,33 @@ public final class ExpansionTest {
         Check.failsIn(21, Check.times(21, "\\number") + "1 %", 30001);
         Check.printsIn(1, "\\count1=" + Check.times(39, "\\count") + "1 %", "");
         Check.failsIn(1, "\\count1=" + Check.times(40, "\\count") + "1 %", 30001);
+        nested(39, 40, "\\expandafter\\relax", "\\string a", 80);
+        nested(39, 40, "\\expandafter\\relax", "\\noexpand a", 80);
+        nested(39, 40, "\\expandafter\\relax", "\\iftrue\\iftrue\\fi\\fi", 82);
+        nested(38, 39, "\\expandafter\\relax", "\\number1 ", 78);
+        nested(38, 39, "\\expandafter\\relax", "\\the\\count1 ", 78);
+        nested(37, 38, "\\expandafter\\relax", "\\number\\count1 ", 76);
+        Check.failsIn(20, Check.times(20, "\\romannumeral") + "0 %", 90001);
+        Check.failsIn(21, Check.times(21, "\\romannumeral") + "0 %", 30001);
+        nested(20, 21, "\\the\\count", "1 ", 21);
+        nested(19, 20, "\\the\\count", "\\number1 ", 21);
+        Check.printsIn(83, "\\def\\a{}" + Check.times(39, "\\expandafter\\relax") + "\\a\\a\\a;%", ";");
+        Check.failsIn(42, "\\def\\a{}" + Check.times(40, "\\expandafter\\relax") + "\\a", 30001);
+        Check.failsIn(40, Check.times(40, "\\csname "), 90001);
+        Check.failsIn(41, Check.times(41, "\\csname "), 30001);
+        Check.failsIn(40, Check.times(40, "\\if") + "%", 90001);
+        Check.failsIn(41, Check.times(41, "\\if"), 30001);
+        Check.failsIn(20, Check.times(20, "\\ifnum") + "%", 90001);
+        Check.failsIn(21, Check.times(21, "\\ifnum"), 30001);
+        Check.failsIn(41, Check.times(39, "\\csname ") + "\\expandafter\\relax\\iftrue", 30001);
+        Check.printsIn(301, "\\def\\a{}" + Check.times(300, "\\a") + "%", "");
         Check.failsWithin(40, Check.times(41, "\\expandafter\\relax"), 100001, "");
         Check.failsWithin(41, Check.times(41, "\\expandafter\\relax"), 30001, "");
+    }
+
+    /** So many of them one within the other around the last are no fault, and one more is fault 3. */
+    private static void nested(int most, int tooMany, String outer, String last, int ticks) {
+        Check.failsIn(ticks, Check.times(most, outer) + last + "%", 0);
+        Check.due(outer + " " + tooMany + " times", Check.fails("%\n" + Check.times(tooMany, outer) + last, 30002, "").size(), 0);
     }
 }

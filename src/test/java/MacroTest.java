@@ -114,6 +114,19 @@ public final class MacroTest {
         Check.prints("\\edef\\a{##}\\def\\b#1{\\string#1}\\edef\\c{\\noexpand\\b\\a#}\\c%", "#");
         Check.prints("\\edef\\a{\\iftrue x}y\\fi\\a%", "yx");
         Check.prints("{\\xdef\\a{x}\\gdef\\b{y}\\edef\\c{z}\\def\\d{w}}\\a\\b%", "xy");
+        String[] expanded = {"\\edef", "\\xdef", "\\global\\edef", "\\global\\xdef"};
+        for (String definition : expanded) {
+            Check.prints("\\def\\a{1}" + definition + "\\b{\\a}\\def\\a{2}\\b%", "1");
+        }
+        String[] kept = {"\\def", "\\gdef", "\\global\\def", "\\global\\gdef"};
+        for (String definition : kept) {
+            Check.prints("\\def\\a{1}" + definition + "\\b{\\a}\\def\\a{2}\\b%", "2");
+        }
+        String[] global = {"\\gdef", "\\xdef", "\\global\\def", "\\global\\edef", "\\global\\gdef", "\\global\\xdef"};
+        for (String definition : global) {
+            Check.prints("\\def\\b{0}{{" + definition + "\\b{1}\\b}\\b}\\b%", "111");
+        }
+        Check.prints("\\def\\b{0}{{\\def\\b{1}\\b}\\b}\\b{{\\edef\\b{1}\\b}\\b}\\b%", "100100");
         Check.fails("{\\edef\\c{z}}\\c", 110001, "");
         Check.fails("{\\def\\c{z}}\\c", 110001, "");
         Check.fails("\\edef\\a{\\iffalse}\\fi", 90001, "");

@@ -13,7 +13,7 @@ public final class NumberTest {
     }
 
     private static void reads(String number, long value, String out) {
-        MacroPress press = Check.fails("\\count1=" + number + "%", 0, out);
+        Press press = Check.fails("\\count1=" + number + "%", 0, out);
         Check.due(number, press.count(1), value);
     }
 
@@ -125,7 +125,7 @@ public final class NumberTest {
     }
 
     private static void becomes(long begin, String change, long end) {
-        MacroPress press = Check.fails("\\count1=" + begin + " " + change + " %", 0, "");
+        Press press = Check.fails("\\count1=" + begin + " " + change + " %", 0, "");
         Check.due(change, press.count(1), end);
     }
 
@@ -150,7 +150,7 @@ public final class NumberTest {
         Check.failsIn(1, "\\advance\\catcode1 by1 ", 60001);
         Check.failsIn(1, "\\advance1 ", 60001);
         Check.failsIn(1, "\\advance\\q", 60001);
-        MacroPress press = Check.fails("\\count1=9 \\divide\\count1 by0 ", 70001, "");
+        Press press = Check.fails("\\count1=9 \\divide\\count1 by0 ", 70001, "");
         Check.due("a fault leaves the counter", press.count(1), 9);
         Check.prints("\\count1=1{\\advance\\count1 by1 \\the\\count1}\\the\\count1 {\\global\\advance\\count1by4}\\the\\count1%",
                 "215");

@@ -108,5 +108,8 @@ public final class ReadingTest {
         Check.prints("\\def~{t}~  ~", "t t ");
         Check.prints("\\def~#1~{#1#1}~ab~", "abab ");
         Check.prints("\\let~=a~\\string~\\number`~%", "a~126");
+        Check.prints("\\catcode0=13 \\catcode1=13 \\catcode254=13 \\catcode255=13 \\let\0=a\\let\1=b\\let\u00fe=c\\let\u00ff=d"
+                + "\0\1\u00fe\u00ff\\expandafter\\relax\\noexpand\0\\the\\catcode255 \\the\\catcode0 \\the\\count255 %", "abcda13130");
+        Check.fails("\\catcode255=13 \\let\u00ff=\\relax\\expandafter\u00ff\u00ff\\catcode0=13 \\def\0{x}\0\\expandafter\0\0%", 0, "xxx");
     }
 }

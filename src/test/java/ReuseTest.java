@@ -13,21 +13,34 @@ public final class ReuseTest {
     private static int seed = 1;
 
     public static void main(String[] args) {
-        MacroPress used = new MacroPress();
-        for (int i = 0; i < 4000; i++) {
-            String text = text(1 + next(40));
-            int ticks = next(4) == 0 ? 30000 : next(300);
-            MacroPress fresh = new MacroPress();
-            Check.type(used, text);
-            Check.type(fresh, text);
-            Check.due(text, used.run(ticks), fresh.run(ticks));
-            Check.due(text, used.ticks(), fresh.ticks());
-            Check.due(text, Check.out(used), Check.out(fresh));
-            for (int k = 0; k < 256; k++) {
-                Check.due(text, used.count(k), fresh.count(k));
+        for (int i = 0; i < 1200; i++) {
+            Press used = new Press();
+            for (int runs = next(6); runs >= 0; runs--) {
+                Check.type(used, text(1 + next(40)));
+                used.run(someTicks());
             }
+            compare(used, new Press(), text(1 + next(40)), someTicks());
         }
         Check.end();
+    }
+
+    private static void compare(Press used, Press fresh, String text, int ticks) {
+        Check.type(used, text);
+        Check.type(fresh, text);
+        Check.due(text, used.run(ticks), fresh.run(ticks));
+        Check.due(text, used.ticks(), fresh.ticks());
+        for (int k = 0; k < 3; k++) {
+            Check.due(text, used.count(k), fresh.count(k));
+        }
+        int size = fresh.size();
+        Check.due(text, used.size(), size);
+        for (int i = 0; i < size && used.callsLeft() > 0 && fresh.callsLeft() > 0; i++) {
+            Check.due(text, used.out(i), fresh.out(i));
+        }
+    }
+
+    private static int someTicks() {
+        return next(4) == 0 ? 30000 : next(300);
     }
 
     private static String text(int pieces) {
