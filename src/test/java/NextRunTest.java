@@ -36,6 +36,7 @@ public final class NextRunTest {
                 rest(before, ticks);
             }
         }
+        namesThatWereNotMade();
         twoRunsOfOneText();
         Check.end();
     }
@@ -105,6 +106,15 @@ public final class NextRunTest {
         press = behind(before, ticks);
         Check.type(press, Check.times(100, "\\iftrue") + Check.times(100, "\\fi") + "%");
         Check.due("100 conditions may be open behind " + before, press.run(30000), 0);
+    }
+
+    /** What 40 names within one another had when a fault ended the run leaves no less room for the next run's names. */
+    private static void namesThatWereNotMade() {
+        String name = Check.times(39, "n");
+        Press press = new Press();
+        Check.type(press, Check.times(40, "\\csname " + name) + "\\relax");
+        Check.due("a fault within 40 names", press.run(30000), 60001);
+        prints(press, "\\def\\" + name + "a{a}" + Check.times(5, "\\csname " + name) + "a" + Check.times(5, "\\endcsname") + "%", "a");
     }
 
     private static void twoRunsOfOneText() {
