@@ -104,6 +104,11 @@ public final class LimitTest {
         Check.fails(makingNames(999, "n") + "\\def~{x}~\\csname\\endcsname", 20001, "x");
         Check.fails(makingNames(999, "n") + "\\csname par\\endcsname\\csname n999\\endcsname%", 0, "\n");
         Check.fails(makingNames(998, "n") + "%\n\\q", 110002, "");
+        String longName = Check.times(36, "n");
+        Check.fails("\\count1=1000 " + makingNames(1999, longName) + "%", 0, "");
+        Check.fails("\\count1=1000 " + makingNames(2000, longName) + "%", 20001, "");
+        Check.fails("\\count1=1000 " + makingNames(1999, longName) + "\\expandafter\\string\\csname " + longName
+                + "1999\\endcsname%", 0, "\\" + longName + "1999");
         Press press = Check.fails(makingNames(1000, "n"), 20001, "");
         Check.due("the loop's last name", press.count(1), 1000);
         Check.failsIn(3, "\\iffalse" + names(1000) + "\\fi\\csname bB\\endcsname%", 0);
